@@ -1,0 +1,1 @@
+final class LanguageTests { static String source; }

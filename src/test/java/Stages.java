@@ -1,0 +1,41 @@
+/** What tests need again and again. */
+final class Stages {
+    static final long ALL = (1L << 40) - 1;
+
+    private Stages() {
+    }
+
+    /** Feeds a text byte by byte; answers what the last feed answered. */
+    static int feed(FarVoice x, String text) {
+        int last = x.count(4);
+        for (int i = 0; i < text.length(); i++) {
+            last = x.feed(text.charAt(i), 1);
+        }
+        return last;
+    }
+
+    static int house(FarVoice x, String text) {
+        feed(x, text);
+        return x.house();
+    }
+
+    /** The FAULT of a text on a new object; -1 if it is a HOUSE. */
+    static int fault(String text) {
+        int answer = house(new FarVoice(), text);
+        return answer == 0 ? -1 : -10 - answer;
+    }
+
+    static void say(FarVoice x, int... letters) {
+        for (int letter : letters) {
+            x.say(letter);
+        }
+    }
+
+    static String repeat(String part, int n, String between) {
+        StringBuilder all = new StringBuilder();
+        for (int i = 0; i < n; i++) {
+            all.append(i == 0 ? "" : between).append(part);
+        }
+        return all.toString();
+    }
+}
