@@ -1,9 +1,10 @@
 import java.lang.reflect.InvocationTargetException;
 import java.lang.reflect.Method;
+import java.lang.reflect.Modifier;
 import java.util.Arrays;
 import java.util.Comparator;
 
-/** Runs the tests of a class: its methods without arguments, each told as 'PASS name' or 'FAIL name'. */
+/** Runs the tests of a class: its static methods without arguments, each told as 'PASS name' or 'FAIL name'. */
 final class Check {
     private static final int MOST_TOLD = 8;
     private static int wrong;
@@ -29,8 +30,7 @@ final class Check {
         Method[] methods = tests.getDeclaredMethods();
         Arrays.sort(methods, Comparator.comparing(Method::getName));
         for (Method method : methods) {
-            if (method.getParameterCount() == 0 && !method.isSynthetic()
-                && method.getReturnType() == void.class) {
+            if (method.getParameterCount() == 0 && Modifier.isStatic(method.getModifiers()) && !method.isSynthetic()) {
                 run(tests.getName() + "." + method.getName(), method);
             }
         }
