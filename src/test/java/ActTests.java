@@ -13,6 +13,7 @@ final class ActTests {
             due("trace(" + i + "): " + what, bodies[i], x.trace(i));
         }
         due("no more: " + what, -1, x.trace(bodies.length));
+        due("none beyond that: " + what, -1, x.trace(bodies.length + 1));
         due("none below 0: " + what, -1, x.trace(-1));
     }
 

@@ -99,6 +99,7 @@ final class StageTests {
         FarVoice x = new FarVoice();
         due("say(-2)", -1, x.say(-2));
         due("say(10)", -1, x.say(10));
+        due("say(11)", -1, x.say(11));
         due("say(-1) without words", 0, x.say(-1));
         for (int n = 1; n <= 20; n++) {
             due("say " + n, n, x.say(n % 10));
@@ -186,7 +187,8 @@ final class StageTests {
             {"ear 1 !(!((f=1)))", 10}, {"ear 1 ((((f=1)|!f=1)))", -1}, {"ear 1 ((((f=1|!f=1))))", 14},
             {"ear 1 ((((f=1))))|((((o=1))))", -1}, {"ear 1 !!!!f=1&!!!!f=1", -1},
             {"ear 1 ((((f=1)))))", 17}, {"ear 1 f=1;eye 2 o=2;late 3;hears 4 0 4;swap 5 5", -1},
-            {"swap 1 2;hears 1 1", 18}, {"swap 1 2;x", 9},
+            {"swap : 1", 5}, {"swap / 1", 5}, {"hears : 1 1", 6}, {"hears 1 1 :", 10}, {"late :", 5}, {"late 1/", 6},
+            {"ear : f>1", 4}, {"ear 1: f>1", 5}, {"ear 1 f>:", 8}, {"swap 1 2;hears 1 1", 18}, {"swap 1 2;x", 9},
         };
         for (Object[] row : texts) {
             due("fault of '" + row[0] + "'", (Integer) row[1], Stages.fault((String) row[0]));
@@ -323,7 +325,7 @@ final class StageTests {
             due("TAPES stay", 0, x.read(0, 2));
             Stages.say(x, 5);
         }
-        due("the next house", 2, Stages.house(x, " 9"));
+        due("a house of what was fed ahead", 2, Stages.house(x, " 9"));
         due("holds", 9, x.told(0, 3));
         x.undo();
         due("the image's house again", 5, x.told(0, 3));

@@ -284,6 +284,10 @@ final class VoiceTests {
         due("ALWAYS", 4, x.houseful(0, -1));
         x.jaw(26, 0b1101);
         due("ALWAYS, not moving in one", 0, x.houseful(0, -1));
+        x.jaw(26, 0b1110);
+        due("ALWAYS, not in the first", 0, x.houseful(0, -1));
+        x.jaw(26, 0b0111);
+        due("ALWAYS, not in the last", 0, x.houseful(0, -1));
         due("houseful(0, -2)", -1, x.houseful(0, -2));
         due("houseful(0, 40)", -1, x.houseful(0, 40));
         due("houseful(1, -1)", -1, x.houseful(1, -1));
@@ -380,6 +384,10 @@ final class VoiceTests {
         Stages.house(x, "late 0");
         x.jaw(20, 0b11);
         due("late 0", 0, x.latest(0, 0));
+        x.jaw(20, 0b10);
+        due("not in the first tenth", -5, x.latest(0, 0));
+        x.jaw(20, 0b01);
+        due("not in the second tenth", -5, x.latest(0, 0));
         Stages.house(x, "late 4");
         x.jaw(20, 0b1);
         due("late 4, the first tenth decides", 4, x.latest(0, 0));
@@ -446,6 +454,21 @@ final class VoiceTests {
         due("not 1, whose lips are shut, not 6", 3, x.swap(0, 0, 0));
         x.jaw(20, 1);
         due("JOINED: 1, lips seen open", 1, x.swap(0, 0, 0));
+        Stages.house(x, "hears 6 0 1;hears 0 1 6");
+        due("JOINED: none, lips shut do not count", 0, x.swap(0, 0, 1));
+        due("the least of all, then", 0, x.swap(0, 0, 0));
+    }
+
+    static void promise17ByTheFirstTenth() {
+        FarVoice x = one(0, 0);
+        Stages.house(x, "late 0;hears 4 0 7");
+        Stages.say(x, 3, 3, 3, 3, 7);
+        x.seat(30, 20);
+        x.jaw(20, 1L << 8);
+        due("JOINED in tenth 8: 4 is heard as 7", 4, x.swap(0, 4, 0));
+        due("by both", 2, x.swap(0, 4, 1));
+        x.jaw(20, 1L << 9);
+        due("not JOINED: 4 near alone", 7, x.swap(0, 4, 0));
     }
 
     static void promise18Changed() {
@@ -459,6 +482,13 @@ final class VoiceTests {
         // not JOINED: nothing is heard as 5 (0's lips are shut); JOINED: swaps would do
         due("changed, near", 2, x.changed(0, 0));
         due("changed, far", 0, x.changed(0, 2));
+        Stages.house(x, "late 0;hears 0 0 5;hears 4 0 0;hears 5 0 9;hears 9 0 1");
+        x.say(-1);
+        Stages.say(x, 1, 2, 3, 4, 9);
+        x.jaw(20, 1L << 8);
+        due("what lips open and shut leave", 1, x.changed(0, 0));
+        due("the last letter JOINED", 0, x.heard(0, 2, 4, 2));
+        due("a swap would do for it", 0, x.changed(0, 2));
         due("changed(0, 3)", -1, x.changed(0, 3));
         due("changed(1, 0)", -1, x.changed(1, 0));
         due("changed(-1, 0)", -1, x.changed(-1, 0));
@@ -543,6 +573,11 @@ final class VoiceTests {
         due("22, 21, 22, 20, 22", 4, x.changes(1, 0, 0, 0));
         due("by more than 1", 2, x.changes(1, 0, 0, 1));
         due("20, 22, 21, 22, 20", 4, x.changes(0, 1, 0, 0));
+        x.jaw(22, 1L << 8);
+        Stages.house(x, "late 0");
+        due("JOINED in tenth 8 alone", 1, x.changes(0, 0, 0, 0));
+        x.jaw(22, 1L << 9);
+        due("JOINED in tenth 9 alone", 0, x.changes(0, 0, 0, 0));
         due("changes(2, 0, 0, 41)", -1, x.changes(2, 0, 0, 41));
         due("changes(0, 2, 0, 0)", -1, x.changes(0, 2, 0, 0));
         due("changes(-1, 0, 0, 0)", -1, x.changes(-1, 0, 0, 0));
