@@ -118,16 +118,19 @@ final class ActTests {
         due("tape(0, 0, -1)", -14, x.tape(0, 0, -1));
         due("still nothing", -11, x.item(0, 0, 0));
         due("tape(0, 3, 60)", 1, x.tape(0, 3, 60));
+        due("item 0", 1, x.item(0, 0, 5));
         due("item 59", 1, x.item(0, 59, 5));
         due("no item 60", -13, x.item(0, 60, 5));
         due("a refused tape", -2, x.tape(0, 1, 61));
         due("changes nothing", 5, x.read(0, 59));
         due("tape(0, 2, 60)", 1, x.tape(0, 2, 60));
+        due("all 0", 0, x.read(0, 0));
         due("all 0", 0, x.read(0, 59));
         due("tape(0, 2, 0)", 1, x.tape(0, 2, 0));
         due("a row of none", -13, x.item(0, 0, 1));
         due("tape(0, -1, 999)", 1, x.tape(0, -1, 999));
         due("nothing then", -11, x.item(0, 0, 1));
+        due("nothing to read", FarVoice.NO, x.read(0, 0));
         due("tape(5, -1, -9)", 1, x.tape(5, -1, -9));
     }
 

@@ -1,3 +1,6 @@
+import java.lang.reflect.Method;
+import java.lang.reflect.Modifier;
+import java.util.Arrays;
 import java.util.Random;
 
 /** Runs of calls on a FarVoice and on the Model, with fixed seeds: all answers must be the same. */
@@ -272,6 +275,35 @@ final class ModelTests {
 
     static void randomRunsOnAFullStage() {
         runs(5000, 400, true);
+    }
+
+    /** Every call with the ends of int and long among what it takes. */
+    static void extremeArguments() throws ReflectiveOperationException {
+        long[] values = {Integer.MIN_VALUE, Integer.MIN_VALUE + 1, -3, -2, -1, 0, 1, 2, 3, 4, 5, 6, 7, 10, 20, 39, 40, 41,
+            59, 60, 61, 1 << 30, Integer.MAX_VALUE - 1, Integer.MAX_VALUE, Long.MIN_VALUE, Long.MAX_VALUE};
+        for (int seed = 40000; seed < 40200; seed++) {
+            ModelTests run = new ModelTests(seed);
+            run.fill();
+            while (run.calls < CALLS) {
+                run.reflected(NAMES[run.upTo(NAMES.length - 1)], values);
+            }
+        }
+    }
+
+    private void reflected(String name, long[] values) throws ReflectiveOperationException {
+        for (Method method : FarVoice.class.getDeclaredMethods()) {
+            if (!method.getName().equals(name) || !Modifier.isPublic(method.getModifiers())) {
+                continue;
+            }
+            Class<?>[] types = method.getParameterTypes();
+            Object[] given = new Object[types.length];
+            for (int k = 0; k < given.length; k++) {
+                long value = values[upTo(values.length - 1)];
+                given[k] = types[k] == int.class ? (Object) (int) value : (Object) value;
+            }
+            Object want = Model.class.getDeclaredMethod(name, types).invoke(model, given);
+            due(name + Arrays.toString(given), ((Number) want).longValue(), ((Number) method.invoke(x, given)).longValue());
+        }
     }
 
     static void randomTexts() {

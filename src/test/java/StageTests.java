@@ -188,7 +188,9 @@ final class StageTests {
             {"ear 1 ((((f=1))))|((((o=1))))", -1}, {"ear 1 !!!!f=1&!!!!f=1", -1},
             {"ear 1 ((((f=1)))))", 17}, {"ear 1 f=1;eye 2 o=2;late 3;hears 4 0 4;swap 5 5", -1},
             {"swap : 1", 5}, {"swap / 1", 5}, {"hears : 1 1", 6}, {"hears 1 1 :", 10}, {"late :", 5}, {"late 1/", 6},
-            {"ear : f>1", 4}, {"ear 1: f>1", 5}, {"ear 1 f>:", 8}, {"swap 1 2;hears 1 1", 18}, {"swap 1 2;x", 9},
+            {"ear 0 f>1", -1}, {"eye 00 f>00", -1}, {"swap 9 0", -1}, {"hears  1 1 1", 6}, {"swap  1 1", 5},
+            {"ear 1 5", 6}, {"ear 1 <5", 6}, {"ear 1 f5", 7}, {"late 1;late", 11}, {"late 1;eat 2", 9},
+            {"swap 1 2;swat 1 2", 12}, {"ear : f>1", 4}, {"ear 1: f>1", 5}, {"ear 1 f>:", 8}, {"swap 1 2;hears 1 1", 18}, {"swap 1 2;x", 9},
         };
         for (Object[] row : texts) {
             due("fault of '" + row[0] + "'", (Integer) row[1], Stages.fault((String) row[0]));
@@ -200,6 +202,38 @@ final class StageTests {
         due("a text of 98 bytes", -1, Stages.fault(full));
         due("one of 100, that ends too early", 100, Stages.fault(full + "|f"));
         due("one of 100, whole", -1, Stages.fault(full.replace("01 f>1|", "01 f>12|") + "5"));
+    }
+
+    static void promise08TheTextBeforeIsGone() {
+        String[][] texts = {
+            {"late 123", "lat", "3"}, {"hears 1 1 1", "hears 1 1 ", "10"}, {"swap 3 3", "swap 3", "6"},
+            {"ear 1 !f>1", "ear 1 ", "6"}, {"ear 1 f>1", "ear 1 f>", "8"}, {"late 12", "late 1", "-1"},
+            {"late 1;late 2", "late 1", "-1"}, {"ear 1 f>1|f", "ear 1 f>1", "-1"}, {"late 12", "l", "1"},
+        };
+        for (String[] row : texts) {
+            FarVoice x = new FarVoice();
+            Stages.house(x, row[0]);
+            int answer = Stages.house(x, row[1]);
+            int fault = answer >= 0 ? -1 : -10 - answer;
+            due("fault of '" + row[1] + "' behind '" + row[0] + "'", Integer.parseInt(row[2]), fault);
+        }
+    }
+
+    static void promise08WhatAFaultReadIsGone() {
+        FarVoice x = new FarVoice();
+        x.seat(5, 20);
+        x.voice(0, 0);
+        String text = "hears 0 0 9;hears 0 1 8;hears 7 0 6;swap 0 5;swap 9 4;late 7;ear 9 f>0;eye 9 f>0";
+        due("a fault at its end", -10 - text.length() - 1, Stages.house(x, text + ";"));
+        due("a house", 0, Stages.house(x, "eye 2 f>0"));
+        for (int letter = 0; letter < 10; letter++) {
+            for (int what = 0; what < 3; what++) {
+                due("told(" + letter + ", " + what + ")", letter, x.told(letter, what));
+            }
+        }
+        due("late", 1, x.told(0, 3));
+        due("EAR", 1, x.held(0, 0, 0, 0));
+        due("EYE", 3, x.held(0, 0, 0, 1));
     }
 
     static void promise09Told() {
@@ -254,6 +288,10 @@ final class StageTests {
         due("boxes(2, 0) of four", 15, x.boxes(2, 0));
         due("boxes(2, 1) of four", 40, x.boxes(2, 1));
         due("boxes(2, 2) of four", 210, x.boxes(2, 2));
+        for (int s = 4; s < 8; s++) {
+            x.seat(1, 40);
+        }
+        due("boxes(2, 2) of eight", 210, x.boxes(2, 2));
         due("boxes(0, 3)", -1, x.boxes(0, 3));
         due("boxes(1, -1)", -1, x.boxes(1, -1));
         due("boxes(0, 0)", -2, x.boxes(0, 0));

@@ -34,6 +34,8 @@ final class VoiceTests {
         due("voice(7, 0)", -1, x.voice(7, 0));
         due("voice(0, 10), full", -2, x.voice(0, 10));
         due("count(3)", 10, x.count(3));
+        due("there is no tenth", -1, x.houseful(10, 0));
+        due("there is a ninth", 0, x.houseful(9, 0));
     }
 
     static void promise11EarAndEye() {
@@ -76,6 +78,16 @@ final class VoiceTests {
         due("EYE 60 of 100", 60, x.held(0, 0, 0, 1));
         due("BOXED: 9 more", 69, x.held(1, 0, 0, 0));
         due("FAR: twice", 120, x.held(2, 0, 0, 0));
+    }
+
+    static void promise11TenClauses() {
+        FarVoice x = one(0, 0);
+        due("ten clauses", 0, Stages.house(x, Stages.repeat("ear 1 f=5", 10, ";")));
+        due("EAR", 11, x.held(0, 0, 0, 0));
+        due("EYE", 1, x.held(0, 0, 0, 1));
+        due("ten more", 1, Stages.house(x, Stages.repeat("eye 2 f=5", 9, ";") + ";ear 3 f=5"));
+        due("EAR", 4, x.held(0, 0, 0, 0));
+        due("EYE", 19, x.held(0, 0, 0, 1));
     }
 
     static void promise11TheTexts() {
@@ -372,6 +384,9 @@ final class VoiceTests {
         due("DOUBLED: never in tenth 0", -5, x.latest(3, 0));
         x.voice(4, 0);
         due("DOUBLED by 0", 1, x.latest(4, 0));
+        x.say(-1);
+        x.say(3);
+        due("DOUBLED: tenth 0 alone is one", -5, x.latest(3, 0));
         due("latest(5, 0)", -1, x.latest(5, 0));
         due("latest(0, 1)", -1, x.latest(0, 1));
         due("latest(-1, 0)", -1, x.latest(-1, 0));
@@ -440,6 +455,13 @@ final class VoiceTests {
         FarVoice y = three(5);
         due("SWAPPED: without SWAP", 0, y.swap(0, 0, 0));
         due("SWAPPED: by the far one", 1, y.swap(0, 0, 1));
+        FarVoice w = new FarVoice();
+        w.voice(0, 0);
+        w.say(7);
+        for (int s = 1; s <= 8; s++) {
+            w.seat(5 * s, 20);
+            due("by as many seats as there are", s, w.swap(0, 0, 1));
+        }
         FarVoice z = new FarVoice();
         z.voice(0, 0);
         z.say(7);
@@ -489,6 +511,15 @@ final class VoiceTests {
         due("what lips open and shut leave", 1, x.changed(0, 0));
         due("the last letter JOINED", 0, x.heard(0, 2, 4, 2));
         due("a swap would do for it", 0, x.changed(0, 2));
+        Stages.house(x, "late 0;hears 9 0 1");
+        due("JOINED in tenth 8: none is heard as 9", 1, x.changed(0, 2));
+        FarVoice y = one(0, 0);
+        y.say(6);
+        y.jaw(20, 1);
+        Stages.house(y, "hears 6 0 1;hears 0 1 6");
+        due("JOINED: none, lips shut do not count", 1, y.changed(0, 0));
+        Stages.house(y, "hears 6 0 1;hears 0 0 6");
+        due("JOINED: 0 would do", 0, y.changed(0, 0));
         due("changed(0, 3)", -1, x.changed(0, 3));
         due("changed(1, 0)", -1, x.changed(1, 0));
         due("changed(-1, 0)", -1, x.changed(-1, 0));
