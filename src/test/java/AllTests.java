@@ -8,6 +8,12 @@ public final class AllTests {
         Check.runAll(StageTests.class);
         Check.runAll(VoiceTests.class);
         Check.runAll(ActTests.class);
+        Check.runAll(StageEdgeTests.class);
+        Check.runAll(HouseEdgeTests.class);
+        Check.runAll(VoiceEdgeTests.class);
+        Check.runAll(HousefulEdgeTests.class);
+        Check.runAll(TapeEdgeTests.class);
+        Check.runAll(RefusalTests.class);
         Check.runAll(ModelTests.class);
         Check.runAll(LanguageTests.class);
         System.exit(Check.allPassed() ? 0 : 1);

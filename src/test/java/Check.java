@@ -19,6 +19,12 @@ final class Check {
         }
     }
 
+    static void dueText(String call, String want, String got) {
+        if (!want.equals(got)) {
+            wrong("  " + call + " answered '" + got + "', due is '" + want + "'");
+        }
+    }
+
     static void wrong(String what) {
         wrong++;
         if (wrong <= MOST_TOLD) {

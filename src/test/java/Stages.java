@@ -5,6 +5,14 @@ final class Stages {
     private Stages() {
     }
 
+    /** One SEAT, 5 far before THE MOUTH, and one VOICE of that KIND. */
+    static FarVoice one(int kind, int v) {
+        FarVoice x = new FarVoice();
+        x.seat(5, 20);
+        x.voice(kind, v);
+        return x;
+    }
+
     /** Feeds a text byte by byte; answers what the last feed answered. */
     static int feed(FarVoice x, String text) {
         int last = x.count(4);
@@ -25,8 +33,26 @@ final class Stages {
         return answer == 0 ? -1 : -10 - answer;
     }
 
+    /** The bytes that can come behind a text, the least first: those that are not the FAULT there. */
+    static String next(String text) {
+        StringBuilder all = new StringBuilder();
+        for (char sign = 0; sign < 256; sign++) {
+            if (fault(text + sign) != text.length()) {
+                all.append(sign);
+            }
+        }
+        return all.toString();
+    }
+
     static void say(FarVoice x, int... letters) {
         for (int letter : letters) {
+            x.say(letter);
+        }
+    }
+
+    /** So many LETTERS, all that one. */
+    static void sayTimes(FarVoice x, int letter, int n) {
+        for (int i = 0; i < n; i++) {
             x.say(letter);
         }
     }

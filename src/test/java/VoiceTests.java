@@ -7,14 +7,6 @@ final class VoiceTests {
         Check.due(call, want, got);
     }
 
-    /** One seat at 5 before THE MOUTH, and a voice of that kind. */
-    private static FarVoice one(int kind, int v) {
-        FarVoice x = new FarVoice();
-        x.seat(5, 20);
-        x.voice(kind, v);
-        return x;
-    }
-
     private static void dueRow(String what, FarVoice x, int[] call, int... wants) {
         for (int t = 0; t < wants.length; t++) {
             due(what + " in tenth " + t, wants[t], x.held(call[0], call[1], t, call[2]));
@@ -67,7 +59,7 @@ final class VoiceTests {
     }
 
     static void promise11AtMostSixty() {
-        FarVoice x = one(0, 0);
+        FarVoice x = Stages.one(0, 0);
         x.voice(2, 9);
         x.voice(3, 0);
         Stages.house(x, "ear 58 f>0;eye 59 f>0");
@@ -81,7 +73,7 @@ final class VoiceTests {
     }
 
     static void promise11TenClauses() {
-        FarVoice x = one(0, 0);
+        FarVoice x = Stages.one(0, 0);
         due("ten clauses", 0, Stages.house(x, Stages.repeat("ear 1 f=5", 10, ";")));
         due("EAR", 11, x.held(0, 0, 0, 0));
         due("EYE", 1, x.held(0, 0, 0, 1));
@@ -101,7 +93,7 @@ final class VoiceTests {
             "l<99", "f=5&f=5&f=6", "!!!f=5", "!(f=6)&!(f=5)", "f=50", "f=6|(f=5&!f=5)",
         };
         for (int i = 0; i < hold.length + fail.length; i++) {
-            FarVoice x = one(0, 0);
+            FarVoice x = Stages.one(0, 0);
             String text = i < hold.length ? hold[i] : fail[i - hold.length];
             due("house of '" + text + "'", 0, Stages.house(x, "eye 7 " + text));
             due("EYE by '" + text + "'", i < hold.length ? 8 : 1, x.held(0, 0, 0, 1));
@@ -118,7 +110,7 @@ final class VoiceTests {
             {3, 9, 40, 40, 40}, {6, 4, 20, 26, 16}, {6, 9, 32, 31, 40}, {6, 3, 0, 0, 3},
         };
         for (int[] row : rows) {
-            FarVoice x = one(row[0], row[1]);
+            FarVoice x = Stages.one(row[0], row[1]);
             x.mouth(row[2]);
             x.jaw(row[3], 0);
             String what = " of kind " + row[0] + " v " + row[1] + " mouth " + row[2] + " jaw " + row[3];
@@ -128,7 +120,7 @@ final class VoiceTests {
     }
 
     static void promise11JoinedByTenths() {
-        FarVoice x = one(0, 0);
+        FarVoice x = Stages.one(0, 0);
         x.jaw(22, 1L << 4 | 1L << 39);
         dueRow("without words", x, new int[] {0, 0, 3}, 0, 0, 0, 0, 0, 0);
         Stages.say(x, 3, 3, 3, 3, 3);
@@ -140,7 +132,7 @@ final class VoiceTests {
         Stages.house(x, "late 99");
         dueRow("late 99", x, new int[] {0, 0, 3}, 1, 1, 1, 1, 1, 1, 1, 1, 1, 1, 0, 0);
         due("tenth 39, nothing said", 0, x.held(0, 0, 39, 3));
-        FarVoice y = one(6, 3);
+        FarVoice y = Stages.one(6, 3);
         Stages.house(y, "late 0;ear 20 f>0");
         Stages.say(y, 1, 1, 1, 1, 1, 1, 1, 1, 1, 1);
         Stages.say(y, 1, 1, 1, 1, 1, 1, 1, 1, 1, 1);
@@ -151,7 +143,7 @@ final class VoiceTests {
     }
 
     static void promise11JoinedByPlaces() {
-        FarVoice x = one(0, 0);
+        FarVoice x = Stages.one(0, 0);
         x.voice(1, 2);
         x.voice(2, 1);
         x.voice(3, 1);
@@ -169,7 +161,7 @@ final class VoiceTests {
 
     static void promise11Doubled() {
         for (int v = 0; v < 10; v++) {
-            FarVoice x = one(4, v);
+            FarVoice x = Stages.one(4, v);
             Stages.say(x, 1, 1, 1, 1, 1, 1, 1, 1, 1, 1);
             x.jaw(20, Stages.ALL);
             for (int t = 0; t < 20; t++) {
@@ -180,7 +172,7 @@ final class VoiceTests {
     }
 
     static void promise11Held() {
-        FarVoice x = one(0, 0);
+        FarVoice x = Stages.one(0, 0);
         x.voice(2, 4);
         x.voice(3, 1);
         x.say(5);
@@ -196,7 +188,7 @@ final class VoiceTests {
         x.jaw(13, 0);
         due("not JOINED", 20, x.held(0, 0, 0, 4));
         due("not CAUGHT", 0, x.held(0, 0, 0, 5));
-        FarVoice y = one(1, 3);
+        FarVoice y = Stages.one(1, 3);
         y.jaw(26, 0);
         due("as near to both: not CAUGHT", 0, y.held(0, 0, 0, 5));
         y.jaw(25, 0);
@@ -206,7 +198,7 @@ final class VoiceTests {
     }
 
     static void promise11NoSuch() {
-        FarVoice x = one(0, 0);
+        FarVoice x = Stages.one(0, 0);
         due("held(0, 0, 0, 0)", 1, x.held(0, 0, 0, 0));
         due("held(1, 0, 0, 0)", -1, x.held(1, 0, 0, 0));
         due("held(-1, 0, 0, 0)", -1, x.held(-1, 0, 0, 0));
@@ -267,7 +259,7 @@ final class VoiceTests {
     }
 
     static void promise12ByTheFirstTenth() {
-        FarVoice x = one(0, 0);
+        FarVoice x = Stages.one(0, 0);
         Stages.house(x, "late 0;hears 4 0 7");
         x.seat(30, 20);
         Stages.say(x, 4, 4);
@@ -307,7 +299,7 @@ final class VoiceTests {
     }
 
     static void promise14Drawn() {
-        FarVoice x = one(0, 0);
+        FarVoice x = Stages.one(0, 0);
         int[][] kinds = {{1, 3}, {1, 9}, {2, 4}, {3, 1}, {3, 2}, {4, 2}, {6, 1}};
         for (int[] kind : kinds) {
             x.voice(kind[0], kind[1]);
@@ -343,7 +335,7 @@ final class VoiceTests {
     }
 
     static void promise14DrawnToNone() {
-        FarVoice x = one(3, 9);
+        FarVoice x = Stages.one(3, 9);
         x.say(5);
         x.jaw(20, 1);
         due("too far off, wherever THE JAW is", -5, x.drawn(0, 0, 0));
@@ -353,7 +345,7 @@ final class VoiceTests {
     }
 
     static void promise15Latest() {
-        FarVoice x = one(0, 0);
+        FarVoice x = Stages.one(0, 0);
         due("without words", 20, x.latest(0, 0));
         Stages.say(x, 3, 4);
         due("THE JAW not moving", -5, x.latest(0, 0));
@@ -394,7 +386,7 @@ final class VoiceTests {
     }
 
     static void promise15LatestWithGaps() {
-        FarVoice x = one(0, 0);
+        FarVoice x = Stages.one(0, 0);
         x.say(3);
         Stages.house(x, "late 0");
         x.jaw(20, 0b11);
@@ -470,7 +462,7 @@ final class VoiceTests {
     }
 
     static void promise17TheLeastOfSeveral() {
-        FarVoice x = one(0, 0);
+        FarVoice x = Stages.one(0, 0);
         Stages.house(x, "hears 4 0 6;hears 3 0 6;hears 1 0 6");
         x.say(6);
         due("not 1, whose lips are shut, not 6", 3, x.swap(0, 0, 0));
@@ -482,7 +474,7 @@ final class VoiceTests {
     }
 
     static void promise17ByTheFirstTenth() {
-        FarVoice x = one(0, 0);
+        FarVoice x = Stages.one(0, 0);
         Stages.house(x, "late 0;hears 4 0 7");
         Stages.say(x, 3, 3, 3, 3, 7);
         x.seat(30, 20);
@@ -513,7 +505,7 @@ final class VoiceTests {
         due("a swap would do for it", 0, x.changed(0, 2));
         Stages.house(x, "late 0;hears 9 0 1");
         due("JOINED in tenth 8: none is heard as 9", 1, x.changed(0, 2));
-        FarVoice y = one(0, 0);
+        FarVoice y = Stages.one(0, 0);
         y.say(6);
         y.jaw(20, 1);
         Stages.house(y, "hears 6 0 1;hears 0 1 6");
@@ -527,7 +519,7 @@ final class VoiceTests {
     }
 
     static void promise21Sure() {
-        FarVoice x = one(0, 0);
+        FarVoice x = Stages.one(0, 0);
         x.voice(4, 2);
         x.voice(6, 2);
         due("above, without words", 0, x.sure(0, 0, 0, 0));
@@ -566,7 +558,7 @@ final class VoiceTests {
     }
 
     static void promise21SureOfMany() {
-        FarVoice x = one(0, 0);
+        FarVoice x = Stages.one(0, 0);
         Stages.say(x, 3, 3, 3);
         Stages.house(x, "late 15");
         x.jaw(22, (1L << 15) - 1);
@@ -588,7 +580,7 @@ final class VoiceTests {
     }
 
     static void promise22Changes() {
-        FarVoice x = one(0, 0);
+        FarVoice x = Stages.one(0, 0);
         x.voice(1, 4);
         due("without words", 0, x.changes(0, 1, 0, 0));
         Stages.say(x, 3);
@@ -619,7 +611,7 @@ final class VoiceTests {
     }
 
     static void promise23Judge() {
-        FarVoice x = one(0, 0);
+        FarVoice x = Stages.one(0, 0);
         Stages.say(x, 3, 3);
         x.jaw(22, 0b1);
         x.tape(2, 1, 6);
