@@ -408,6 +408,19 @@ final class HouseEdgeTests {
         due("house()", 1, Stages.house(x, "late 2"));
     }
 
+    // many FAULTS, one after the other, leave nothing behind of what was read until then
+    static void promise08ManyFaultsLeaveNothing() {
+        FarVoice x = Stages.one(0, 0);
+        String text = "late 9;ear 9 " + Stages.repeat("f=5", 20, "&");
+        for (int n = 0; n < 8; n++) {
+            due("a fault", -10 - text.length(), Stages.house(x, text + ")"));
+        }
+        due("house()", 0, Stages.house(x, "ear 3 " + Stages.repeat("f=5", 6, "&") + ";ear 4 f=5&f=6;eye 5 f=6|!f=6"));
+        due("EAR", 4, x.held(0, 0, 0, 0));
+        due("EYE", 6, x.held(0, 0, 0, 1));
+        due("late", 1, x.told(0, 3));
+    }
+
     // "FULL: there are 5 (THE TEXT stays)"
     static void promise08Full() {
         FarVoice x = new FarVoice();

@@ -9,6 +9,7 @@ import com.sun.source.tree.LambdaExpressionTree;
 import com.sun.source.tree.MemberReferenceTree;
 import com.sun.source.tree.MethodInvocationTree;
 import com.sun.source.tree.MethodTree;
+import com.sun.source.tree.NewArrayTree;
 import com.sun.source.tree.NewClassTree;
 import com.sun.source.tree.PrimitiveTypeTree;
 import com.sun.source.tree.SynchronizedTree;
@@ -69,6 +70,7 @@ final class LanguageTests {
         final Map<String, Integer> lines = new HashMap<>();
         final Map<String, Integer> fields = new LinkedHashMap<>();
         final List<String> imports = new ArrayList<>();
+        final List<String> makers = new ArrayList<>();
         int classes;
         private final Trees trees;
         private final CompilationUnitTree unit;
@@ -183,7 +185,20 @@ final class LanguageTests {
                 wrong(tree, "an anonymous class");
             }
             call(trees.getElement(getCurrentPath()), tree);
+            made(tree);
             return super.visitNewClass(tree, none);
+        }
+
+        @Override
+        public Void visitNewArray(NewArrayTree tree, Void none) {
+            made(tree);
+            return super.visitNewArray(tree, none);
+        }
+
+        private void made(Tree tree) {
+            if (method() != null && method().getKind() == ElementKind.METHOD) {
+                makers.add(method().getSimpleName() + " makes " + tree);
+            }
         }
 
         @Override
@@ -351,6 +366,11 @@ final class LanguageTests {
         }
         open.remove(method);
         return method.getSimpleName() + best;
+    }
+
+    /** The room of a run is small: rows are made with the object, and only a VOICE needs one more. */
+    static void rule12OnlyVoiceMakesAnObject() {
+        Check.dueText("what is made", "[voice makes new Voice(voiceCount, kind, v)]", Look.at(source).makers.toString());
     }
 
     static void rule4NoSignAbove127() throws IOException {

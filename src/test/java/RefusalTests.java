@@ -30,7 +30,7 @@ final class RefusalTests {
             x.voice(kind, 3);
         }
         fill(x, 8);
-        feed(x, FED);
+        Stages.feed(x, FED);
         return x;
     }
 
@@ -45,10 +45,10 @@ final class RefusalTests {
         }
         fill(x, 20);
         for (int h = 2; h < 5; h++) {
-            feed(x, "late 0");
+            Stages.feed(x, "late 0");
             x.house();
         }
-        feed(x, Stages.repeat("late", 25, ""));
+        Stages.feed(x, Stages.repeat("late", 25, ""));
         return x;
     }
 
@@ -57,13 +57,13 @@ final class RefusalTests {
         for (int i = 0; i < letters; i++) {
             x.say(i % 10);
         }
-        feed(x, "late 0;hears 0 0 3;hears 4 0 5;hears 1 1 6;swap 2 7;ear 4 f>5;eye 3 t<9");
+        Stages.feed(x, "late 0;hears 0 0 3;hears 4 0 5;hears 1 1 6;swap 2 7;ear 4 f>5;eye 3 t<9");
         x.house();
         x.mouth(19);
         x.jaw(23, 0x5555F0F0FL);
         x.slips(4);
         x.image();
-        feed(x, "late 0;hears 0 0 4;hears 3 0 5;hears 2 1 6;swap 1 8;ear 6 f>7;eye 2 t<7");
+        Stages.feed(x, "late 0;hears 0 0 4;hears 3 0 5;hears 2 1 6;swap 1 8;ear 6 f>7;eye 2 t<7");
         x.house();
         x.mouth(21);
         x.jaw(24, TENTHS);
@@ -75,18 +75,6 @@ final class RefusalTests {
             x.item(tape, 2, 21);
         }
         x.act(6, 1, 5);
-    }
-
-    /** Four bytes a call: both objects and all looks at them stay under 512 calls. */
-    private static void feed(FarVoice x, String text) {
-        for (int from = 0; from < text.length(); from += 4) {
-            int n = Math.min(4, text.length() - from);
-            int bytes = 0;
-            for (int k = 0; k < n; k++) {
-                bytes = bytes << 8 | text.charAt(from + k);
-            }
-            x.feed(bytes, n);
-        }
     }
 
     // ---- all that can be seen of an object
@@ -277,9 +265,9 @@ final class RefusalTests {
             x.mouth(17);
             x.jaw(18, 5);
             x.slips(3);
-            feed(x, "late 0");
+            Stages.feed(x, "late 0");
             x.house();
-            feed(x, "late 4");
+            Stages.feed(x, "late 4");
             x.tape(0, 1, 2);
             x.act(0, 2, 2);
         }

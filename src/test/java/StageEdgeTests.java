@@ -608,6 +608,106 @@ final class StageEdgeTests {
         due("THE JAW", 26, x.count(7));
     }
 
+    // "THE IMAGE: THE MOUTH, THE JAW and its TENTHS, WORDS, odds of SLIPS, which HOUSE holds": each by itself
+    static void promise25TheMouth() {
+        FarVoice x = new FarVoice();
+        for (int place : new int[] {0, 40, 20}) {
+            x.mouth(place);
+            x.image();
+            x.mouth(13);
+            x.undo();
+            due("THE MOUTH", place, x.count(6));
+            due("THE JAW", 26, x.count(7));
+        }
+    }
+
+    static void promise25TheJaw() {
+        FarVoice x = new FarVoice();
+        for (int place : new int[] {0, 40, 26}) {
+            x.jaw(place, 0);
+            x.image();
+            x.jaw(13, 0);
+            x.undo();
+            due("THE JAW", place, x.count(7));
+            due("THE MOUTH", 20, x.count(6));
+        }
+    }
+
+    static void promise25ItsTenths() {
+        for (long tenths : new long[] {0, 1, 1L << 39, Stages.ALL, 0x5A5A5A5A5AL}) {
+            FarVoice x = tenthByTenth();
+            x.jaw(20, tenths);
+            x.image();
+            x.jaw(20, tenths ^ Stages.ALL);
+            dueTenths(x, tenths ^ Stages.ALL);
+            x.undo();
+            dueTenths(x, tenths);
+        }
+    }
+
+    static void promise25TheTenthsAtFirst() {
+        FarVoice x = tenthByTenth();
+        x.jaw(20, 0);
+        x.image();
+        x.jaw(20, Stages.ALL);
+        x.undo();
+        dueTenths(x, 0);
+    }
+
+    static void promise25Odds() {
+        FarVoice x = new FarVoice();
+        for (int odds = 0; odds <= 10; odds++) {
+            x.slips(odds);
+            x.image();
+            x.slips(10 - odds);
+            x.undo();
+            due("odds", odds, x.slips(3));
+        }
+    }
+
+    static void promise25WhichHouse() {
+        FarVoice x = new FarVoice();
+        for (int h = 0; h < 5; h++) {
+            Stages.house(x, "late " + (3 + h));
+            if (h == 2) {
+                x.image();
+            }
+        }
+        due("late of the newest", 7, x.told(0, 3));
+        x.undo();
+        due("late of the third", 5, x.told(0, 3));
+    }
+
+    // what is said, moved or told after undo() is no part of THE IMAGE
+    static void promise25TheImageStaysAsItWasTaken() {
+        FarVoice x = Stages.one(0, 0);
+        Stages.say(x, 4, 5);
+        x.image();
+        x.undo();
+        x.say(-1);
+        Stages.say(x, 6, 7, 8);
+        x.mouth(1);
+        x.jaw(2, 3);
+        x.slips(9);
+        due("undo()", 2, x.undo());
+        due("the first letter", 4, x.heard(0, 0, 0, 0));
+        due("the second letter", 5, x.heard(0, 0, 1, 0));
+        due("THE MOUTH", 20, x.count(6));
+        due("THE JAW", 26, x.count(7));
+        due("odds", 0, x.slips(0));
+    }
+
+    // ... and a HOUSE that is read afterwards holds
+    static void promise25ThenTheNewestHouseHoldsAgain() {
+        FarVoice x = new FarVoice();
+        x.image();
+        Stages.house(x, "late 4");
+        x.undo();
+        due("late without a house", 1, x.told(0, 3));
+        due("a second house", 1, Stages.house(x, "late 5"));
+        due("late", 5, x.told(0, 3));
+    }
+
     // "which HOUSE holds": none, too
     static void promise25ToNoHouse() {
         FarVoice x = Stages.one(0, 0);

@@ -575,6 +575,14 @@ final class TapeEdgeTests {
         }
     }
 
+    static void promise31TheOrderOfRefusals() {
+        FarVoice x = new FarVoice();
+        x.tape(0, INTS, 3);
+        due("no such tape, no such place", -1, x.item(6, -1, 7));
+        due("no such tape, no such place", -1, x.item(-1, 3, 7));
+        due("nothing there, no such place", -11, x.item(1, 60, 7));
+    }
+
     static void promise31TheFirstAndTheLastItem() {
         FarVoice x = new FarVoice();
         x.tape(0, INTS, 3);
