@@ -377,8 +377,8 @@ public final class FarVoice {
         }
         int tenths = stage.tenthsSaidIn();
         for (int t = 0; t < tenths; t++) {
-            // t counts only from a place that the row has: i + t stays small
-            if (!row.has(i) || !row.has(i + t)) {
+            // at t 0 this is i itself, so that no greater i + t can wrap
+            if (!row.has(i + t)) {
                 return 100 + t;
             }
             if (row.items[i + t] != lookAt(speaker, seat, t).held) {
@@ -1232,7 +1232,7 @@ public final class FarVoice {
         }
 
         boolean hasRun(int i, int n) {
-            return i >= 0 && n >= 0 && i <= length && n <= length - i;
+            return i >= 0 && n >= 0 && n <= length - i;
         }
 
         void put(int i, long v) {

@@ -1,3 +1,5 @@
+import java.util.function.IntBinaryOperator;
+
 /**
  * Edges of what is asked of whole seats, rows and stages: promises 13 to 19, 21 and 22. Above each test
  * stands the sentence of the document that names its edge.
@@ -927,5 +929,76 @@ final class HousefulEdgeTests {
     static void promise22NoSecondVoiceForOneLetter() {
         due("changes(0, 2, 0, 0)", -1, two(1).changes(0, 2, 0, 0));
         due("changes(2, 0, 0, 0)", -1, two(0).changes(2, 0, 0, 0));
+    }
+
+    // ---- "of a VOICE and a SEAT": each of these numbers counts for itself
+
+    private static void dueAll(String what, int[][] answers, IntBinaryOperator call) {
+        for (int v = 0; v < 3; v++) {
+            for (int s = 0; s < 3; s++) {
+                due(what + " of " + v + " and " + s, answers[v][s], call.applyAsInt(v, s));
+            }
+        }
+    }
+
+    static void promise13OfThatVoice() {
+        FarVoice x = Stages.three();
+        int[] caught = {0b010, 0b011, 0};
+        for (int v = 0; v < 3; v++) {
+            due("houseful(" + v + ", 1)", caught[v], x.houseful(v, 1));
+            due("houseful(" + v + ", -1)", caught[v], x.houseful(v, -1));
+        }
+    }
+
+    static void promise14OfThatVoiceAndSeat() {
+        FarVoice x = Stages.three();
+        // FAR: 20 and d from 11
+        dueAll("DRAWN", new int[][] {{2, 6, 11}, {11, 15, 20}, {-5, 2, 3}}, (v, s) -> x.drawn(v, s, 1));
+        dueAll("DRAWN, nothing said", new int[][] {{-5, -5, -5}, {-5, -5, -5}, {-5, -5, -5}}, (v, s) -> x.drawn(v, s, 4));
+    }
+
+    static void promise15OfThatVoiceAndSeat() {
+        FarVoice x = Stages.three();
+        dueAll("LATEST", new int[][] {{-5, 0, 0}, {0, 0, 0}, {-5, -5, -5}}, x::latest);
+    }
+
+    static void promise16OfThatVoiceAndSeat() {
+        FarVoice x = Stages.three();
+        dueAll("WRONG", new int[][] {{2, 2, 2}, {2, 2, 2}, {2, 2, 0}}, x::wrong);
+    }
+
+    static void promise17OfThatVoice() {
+        FarVoice x = Stages.three();
+        int[] best = {0, 0, 3};
+        int[] by = {0, 0, 1};
+        for (int v = 0; v < 3; v++) {
+            due("swap(" + v + ", 1, 0)", best[v], x.swap(v, 1, 0));
+            due("swap(" + v + ", 1, 1)", by[v], x.swap(v, 1, 1));
+        }
+    }
+
+    static void promise18OfThatVoiceAndSeat() {
+        FarVoice x = Stages.three();
+        dueAll("CHANGED", new int[][] {{2, 2, 2}, {2, 2, 2}, {2, 2, 0}}, x::changed);
+    }
+
+    static void promise21OfThatVoiceAndSeat() {
+        FarVoice x = Stages.three();
+        x.slips(5);
+        dueAll("SURE, above", new int[][] {{0, 1, 1}, {1, 1, 1}, {0, 0, 0}}, (v, s) -> (int) x.sure(v, s, 3, 0));
+        dueAll("SURE, below", new int[][] {{1, 2, 2}, {2, 2, 2}, {1, 1, 1}}, (v, s) -> (int) x.sure(v, s, 3, 1));
+    }
+
+    static void promise22OfThoseVoicesAndThatSeat() {
+        FarVoice x = Stages.three();
+        // SEAT 0: 20, 25, 11; SEAT 1: 25, 25, 11; SEAT 2: 20, 23, 11
+        int[][] off = {{0, 5, 9}, {5, 0, 14}, {9, 14, 0}};
+        dueAll("by less than they are off, SEAT 0", new int[][] {{0, 1, 1}, {1, 0, 1}, {1, 1, 0}},
+            (a, b) -> x.changes(a, b, 0, Math.max(0, off[a][b] - 1)));
+        dueAll("by as much as they are off, SEAT 0", new int[3][3], (a, b) -> x.changes(a, b, 0, off[a][b]));
+        due("SEAT 1, 25 and 25", 0, x.changes(0, 1, 1, 0));
+        due("SEAT 1, 25 and 11", 1, x.changes(1, 2, 1, 13));
+        due("SEAT 2, 20 and 23", 1, x.changes(0, 1, 2, 2));
+        due("SEAT 2, 20 and 23", 0, x.changes(0, 1, 2, 3));
     }
 }

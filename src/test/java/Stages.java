@@ -13,6 +13,25 @@ final class Stages {
         return x;
     }
 
+    /**
+     * SEATS 0, 1, 2 with EAR and EYE 1 and 1, 5 and 1, 1 and 10, the last of them beyond 20; VOICES of KINDS
+     * VOICE, BOXED and FAR; THE JAW 6 off, moving in all TENTHS. The first is JOINED by SEATS 1 and 2, the
+     * second by all, the third by none. 3 is said twice: no LETTER is heard as 3, but from afar.
+     */
+    static FarVoice three() {
+        FarVoice x = new FarVoice();
+        x.seat(5, 20);
+        x.seat(15, 20);
+        x.seat(30, 20);
+        x.voice(0, 9);
+        x.voice(2, 9);
+        x.voice(3, 9);
+        house(x, "late 0;ear 4 f=15;eye 9 f=30;hears 3 0 4");
+        say(x, 3, 3);
+        x.jaw(26, ALL);
+        return x;
+    }
+
     /** Feeds a text, four bytes a call, for an object has no more than 512; answers what the last call answered. */
     static int feed(FarVoice x, String text) {
         int last = x.count(4);

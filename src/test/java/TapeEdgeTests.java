@@ -159,6 +159,24 @@ final class TapeEdgeTests {
         due("judge(5, 0, 0, 0)", 1, x.judge(5, 0, 0, 0));
     }
 
+    static void promise23OfThatTapeVoiceAndSeat() {
+        FarVoice x = Stages.three();
+        int[][] held = {{20, 25, 20}, {25, 25, 23}, {11, 11, 11}};
+        int[] places = {20, 25, 23, 11};
+        for (int tape = 0; tape < 4; tape++) {
+            x.tape(tape, SHORTS, 4);
+            for (int i = 0; i < 4; i++) {
+                x.item(tape, i, places[tape]);
+            }
+            for (int v = 0; v < 3; v++) {
+                for (int s = 0; s < 3; s++) {
+                    due("tape " + tape + " voice " + v + " seat " + s, held[v][s] == places[tape] ? -5 : 0,
+                        x.judge(tape, 0, v, s));
+                }
+            }
+        }
+    }
+
     // a short that comes round to a PLACE is that PLACE
     static void promise23ShortsThatComeRound() {
         FarVoice x = judged(1, 2);

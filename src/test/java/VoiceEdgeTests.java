@@ -389,6 +389,14 @@ final class VoiceEdgeTests {
         }
     }
 
+    // where it SOUNDS is not where it is HELD to be
+    static void promise11SoundsWhereItDoesThoughJoined() {
+        FarVoice x = speaking(VOICE, 0, 20, 22, 1);
+        due("JOINED", 1, x.held(0, 0, 0, JOINED));
+        due("SOUNDS", 20, x.held(0, 0, 0, SOUNDS));
+        due("HELD", 21, x.held(0, 0, 0, HELD));
+    }
+
     // ---- "JOINED by a SEAT in a TENTH, if a LETTER is said"
 
     private static void dueJoined(FarVoice x, String tenths) {
@@ -705,6 +713,39 @@ final class VoiceEdgeTests {
         due("the first voice SOUNDS", 20, x.held(0, 7, 0, SOUNDS));
         due("EAR of the last seat", 10, x.held(9, 7, 0, EAR));
         due("EAR of the first seat", 5, x.held(9, 0, 0, EAR));
+    }
+
+    // "Of a VOICE by a SEAT in a TENTH": each of these numbers counts for itself
+    static void promise11OfThatVoiceSeatAndTenth() {
+        FarVoice x = Stages.three();
+        int[][] ears = {{1, 5, 1}, {10, 14, 10}, {2, 10, 2}};
+        int[][] held = {{20, 25, 20}, {25, 25, 23}, {11, 11, 11}};
+        int[] eyes = {1, 1, 10};
+        int[] sounds = {20, 20, 11};
+        for (int v = 0; v < 3; v++) {
+            for (int s = 0; s < 3; s++) {
+                due("EAR of " + v + " by " + s, ears[v][s], x.held(v, s, 2, EAR));
+                due("EYE of " + v + " by " + s, eyes[s], x.held(v, s, 2, EYE));
+                due("SOUNDS of " + v + " by " + s, sounds[v], x.held(v, s, 2, SOUNDS));
+                due("JOINED of " + v + " by " + s, v == 1 || v == 0 && s > 0 ? 1 : 0, x.held(v, s, 2, JOINED));
+                due("HELD of " + v + " by " + s, held[v][s], x.held(v, s, 2, HELD));
+                due("CAUGHT of " + v + " by " + s, held[v][s] > 23 ? 1 : 0, x.held(v, s, 2, CAUGHT));
+                due("JOINED of " + v + " by " + s + ", nothing said", 0, x.held(v, s, 4, JOINED));
+            }
+        }
+    }
+
+    static void promise12OfThatVoiceSeatAndLetter() {
+        FarVoice x = Stages.three();
+        x.say(7);
+        for (int v = 0; v < 3; v++) {
+            for (int s = 0; s < 3; s++) {
+                boolean right = v == 2 && s == 2;
+                due("HEARD of " + v + " by " + s, right ? 3 : 4, x.heard(v, s, 1, 1));
+                due("RIGHT of " + v + " by " + s, right ? 1 : 0, x.heard(v, s, 1, 2));
+                due("the third letter of " + v + " by " + s, 7, x.heard(v, s, 2, 1));
+            }
+        }
     }
 
     // ---- promise 12: "JOINED in the LETTER's first TENTH"
