@@ -297,7 +297,7 @@ final class HouseEdgeTests {
         dueNext("ear 1 !!!!", "fklot");
     }
 
-    static void promise08AFifthNotWithinFour() {
+    static void promise08AFifthNegationWithinFour() {
         dueFault("ear 1 !!!!!f=1", 10);
         dueFault("ear 1 ((((!f=1))))", 10);
         dueFault("ear 1 (!(!!f=1))", 10);
@@ -321,7 +321,7 @@ final class HouseEdgeTests {
     }
 
     // a ! is around its own F alone
-    static void promise08NotEndsWithItsFactor() {
+    static void promise08ANegationEndsWithItsFactor() {
         dueWhole("ear 1 (((!f=1&!f=1|!f=1)))");
         dueFault("ear 1 (((!f=1&!!f=1)))", 15);
     }

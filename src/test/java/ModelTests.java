@@ -278,6 +278,17 @@ final class ModelTests {
         runs(5000, 400, true);
     }
 
+    /** LANGUAGE.md, rule 7: what calls behind the 512th answer is free, but none may throw. */
+    static void laterCallsDoNotThrow() {
+        for (int seed = 60000; seed < 60020; seed++) {
+            ModelTests run = new ModelTests(seed);
+            run.fill();
+            while (run.calls < 8 * CALLS) {
+                run.randomCall();
+            }
+        }
+    }
+
     /** Every call with the ends of int and long among what it takes. */
     static void extremeArguments() throws ReflectiveOperationException {
         long[] values = {Integer.MIN_VALUE, Integer.MIN_VALUE + 1, -3, -2, -1, 0, 1, 2, 3, 4, 5, 6, 7, 10, 20, 39, 40, 41,

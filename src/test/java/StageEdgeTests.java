@@ -22,21 +22,6 @@ final class StageEdgeTests {
         due("call 512", 511 % 41, x.count(6));
     }
 
-    // LANGUAGE.md, rule 7: "No call may ever throw or fail to end, for any arguments in any state"
-    static void faceLaterCallsDoNotThrow() {
-        FarVoice x = new FarVoice();
-        for (int call = 0; call < 3000; call += 8) {
-            x.seat(1 + call % 40, call % 41);
-            x.voice(call % 7, call % 10);
-            x.say(call % 10);
-            x.feed('l' << 24 | 'a' << 16 | 't' << 8 | 'e', 4);
-            x.feed(' ' << 8 | '5', 2);
-            x.house();
-            x.act(call % 10, call % 3, call);
-            x.tape(call % 6, call % 5, call % 61);
-        }
-    }
-
     // ---- promise 1: "No SEATS, no WORDS."
 
     static void promise01NoSeatsAtFirst() {
