@@ -783,6 +783,22 @@ final class HousefulEdgeTests {
         dueSure(x, 39, FarVoice.NO, FarVoice.NO);
     }
 
+    // the words tell no exception for where it could not be JOINED at all
+    static void promise21SixteenTenthsWhereItCanNotBeJoined() {
+        FarVoice silent = at20(VOICE, 0, 0, (1L << 16) - 1);
+        Stages.house(silent, "late 20");
+        dueSure(silent, 0, FarVoice.NO, FarVoice.NO);
+        FarVoice doubled = at20(DOUBLED, 1, 20, (1L << 16) - 1);
+        Stages.house(doubled, "late 20");
+        dueSure(doubled, 0, FarVoice.NO, FarVoice.NO);
+        FarVoice off = at20(VOICE, 0, 20, 0);
+        Stages.house(off, "late 20");
+        off.jaw(40, (1L << 16) - 1);
+        dueSure(off, 0, FarVoice.NO, FarVoice.NO);
+        off.jaw(40, (1L << 15) - 1);
+        dueSure(off, 0, 0, 1);
+    }
+
     // those farther off than late do not count
     static void promise21FifteenOfSixteenTenths() {
         FarVoice x = at20(VOICE, 0, 20, Stages.ALL);

@@ -42,6 +42,14 @@ final class TapeEdgeTests {
         due("nothing said, from its end on", -5, judged(0, 4).judge(0, 4, 0, 0));
     }
 
+    // -5 is named ahead of 100
+    static void promise23NoneToLookAtThoughThePlaceIsNone() {
+        FarVoice x = judged(0, 4);
+        due("from -1 on", -5, x.judge(0, -1, 0, 0));
+        due("from beyond its end on", -5, x.judge(0, 5, 0, 0));
+        due("of a TAPE that holds nothing", -5, x.judge(1, 0, 0, 0));
+    }
+
     // "the first TENTH that is otherwise"
     static void promise23TheFirstTenthIsOtherwise() {
         FarVoice x = judged(2, 4);
