@@ -16,6 +16,7 @@ public final class AllTests {
         Check.runAll(RefusalTests.class);
         Check.runAll(ModelTests.class);
         Check.runAll(LanguageTests.class);
+        Check.runAll(ReadmeTests.class);
         System.exit(Check.allPassed() ? 0 : 1);
     }
 }

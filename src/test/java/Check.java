@@ -4,7 +4,7 @@ import java.lang.reflect.Modifier;
 import java.util.Arrays;
 import java.util.Comparator;
 
-/** Runs the tests of a class: its static methods without arguments, each told as 'PASS name' or 'FAIL name'. */
+/** Runs the tests of a class: its static void methods without arguments, each told as 'PASS name' or 'FAIL name'. */
 final class Check {
     private static final int MOST_TOLD = 8;
     private static int wrong;
@@ -36,10 +36,15 @@ final class Check {
         Method[] methods = tests.getDeclaredMethods();
         Arrays.sort(methods, Comparator.comparing(Method::getName));
         for (Method method : methods) {
-            if (method.getParameterCount() == 0 && Modifier.isStatic(method.getModifiers()) && !method.isSynthetic()) {
+            if (isTest(method)) {
                 run(tests.getName() + "." + method.getName(), method);
             }
         }
+    }
+
+    private static boolean isTest(Method method) {
+        return method.getParameterCount() == 0 && method.getReturnType() == void.class
+            && Modifier.isStatic(method.getModifiers()) && !method.isSynthetic();
     }
 
     private static void run(String name, Method method) {
